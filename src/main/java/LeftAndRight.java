@@ -470,7 +470,7 @@ public final class LeftAndRight {
         /** Reads an item's numbers from a place on: the place behind its semicolon, or -1. */
         private int readNumbers(Text text, int from) {
             int place = from;
-            for (told = 0; told < MOST_NUMBERS; ) {
+            for (int i = 0; i < MOST_NUMBERS; i++) {
                 int number = text.figureAt(place);
                 if (number < 0) {
                     return -1;
@@ -481,8 +481,8 @@ public final class LeftAndRight {
                     number = number * 10 + second;
                     place++;
                 }
-                put(numbers, told, number);
-                told++;
+                put(numbers, i, number);
+                told = i + 1;
                 int letter = text.letterAt(place);
                 place++;
                 if (letter == ';') {

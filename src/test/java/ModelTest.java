@@ -1,6 +1,6 @@
 /** Long runs of calls, drawn by number so that they are always the same, held against Model. */
 public final class ModelTest {
-    private static final int RUNS = 1500, CALLS = 500;
+    private static final int RUNS = 1500, CALLS = 512;
     private static final int[] WILD = {Integer.MIN_VALUE, Integer.MIN_VALUE + 1, -1000, -5, -4, -3, -2, -1, 0, 1, 2, 3, 4,
         5, 6, 9, 10, 11, 12, 31, 32, 33, 34, 40, 41, 60, 61, 63, 64, 72, 73, 127, 999, 1000, 9999, 10000, 65536,
         Integer.MAX_VALUE - 60, Integer.MAX_VALUE - 1, Integer.MAX_VALUE};
@@ -17,6 +17,10 @@ public final class ModelTest {
             m = new Model();
             int calls = run % 4 == 0 ? 0 : writeAndLay(textOf(run % 5 == 0));
             boolean wild = run % 10 == 9;
+            while (calls < CALLS / 2) {
+                calls += call(wild);
+            }
+            calls += run % 2 == 0 ? 0 : writeAndLay(textOf(false));
             while (calls < CALLS) {
                 calls += call(wild);
             }

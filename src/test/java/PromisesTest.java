@@ -192,6 +192,10 @@ public final class PromisesTest {
         due("the day then", x.count(2), 0);
         x = Check.laid("c0,0,30,5;s5;g9,3;k3;g40,4;k25;s6;k39;k3;");
         due("of several the last S", x.count(9), 6);
+        Check.write(x, "c0,0,30,5;f30,30;").lay();
+        counts("nothing of an earlier text is left", x, 1, 1, 0, 0, 0, 0, 0, 0, 17, 2);
+        due("its log", x.sawn(-1), 5);
+        x = Check.laid("c0,0,30,5;s5;g9,3;k3;g40,4;k25;s6;k39;k3;");
         due("of several the last log", x.sawn(-1), 8);
         due("its knots", x.count(3), 3);
     }
@@ -218,6 +222,15 @@ public final class PromisesTest {
         row("day 40", x, 2, 2, 0, 72, 40, 0);
         row("day 40", x, 3, 3, 1, 72, 42, 0);
         row("day 40, came on day 30", x, 5, 1, 0, 35, 27, 30);
+        x.come(1, 0, 59, 30);
+        x.pass(30);
+        row("30 days behind", x, 6, 1, 0, 55, 20, 40);
+        x.pass(1);
+        row("31 days behind", x, 6, 1, 0, 55, 20, 40);
+        x.come(1, 0, 30, 12);
+        x.pass(60);
+        row("60 days behind", x, 7, 1, 0, 28, 8, 71);
+        x = Check.laid("c1,0,72,40;c0,1,72,40;c2,0,72,40;c3,1,72,40;c1,1,12,1;c0,0,30,5;");
         due("clog(-1, 0)", x.clog(-1, 0), BAD);
         due("clog(6, 0)", x.clog(6, 0), BAD);
         due("clog(0, -1)", x.clog(0, -1), BAD);
@@ -303,6 +316,12 @@ public final class PromisesTest {
         row("behind", x, 3, 0, 0, 32, 5, 0);
         row("behind", x, 4, 1, 1, 60, 5, 0);
         due("clog(5, 0)", x.clog(5, 0), BAD);
+        x = Check.laid("c0,0,50,5;c0,1,60,6;c0,0,30,5;c0,1,70,7;c0,1,30,5;c1,0,40,8;");
+        due("go, others before, between and behind", x.go(2, 4), 4);
+        row("before", x, 0, 0, 0, 50, 5, 0);
+        row("before", x, 1, 0, 1, 60, 6, 0);
+        row("between", x, 2, 0, 1, 70, 7, 0);
+        row("behind", x, 3, 1, 0, 40, 8, 0);
         x = Check.laid("c0,0,30,5;c0,1,30,5;");
         due("go, the last two", x.go(0, 1), 0);
         due("go from none", x.go(0, 1), BAD);
@@ -455,6 +474,7 @@ public final class PromisesTest {
     private static void served() {
         servedOf("c0,0,30,5;c0,1,30,5;", 0);
         servedOf("c0,0,30,5;c0,1,30,5;f28,28;", 1);
+        servedOf("c0,1,30,5;c0,0,30,5;f28,28;", 1);
         servedOf("c0,0,30,5;c0,1,30,5;f29,28;", 0);
         servedOf("c0,0,30,5;c0,1,30,5;f28,29;", 0);
         servedOf("c0,0,30,5;c0,1,30,5;f24,24;", 1);
@@ -628,6 +648,7 @@ public final class PromisesTest {
         due("forget() of none", x.forget(), 0);
         due("thick(5)", x.thick(5), 1022);
         due("heard again", x.heard(1, 1, 1), 1);
+        due("thick(1) by the first that is heard", x.thick(1), 2);
     }
 
     private static void wholeOf(int n, int x, int above, int below) {
@@ -677,6 +698,14 @@ public final class PromisesTest {
         due("together(1, -1)", x.together(1, -1), BAD);
     }
 
+    /** Reckoned apart from the program, from one right clog of 30 and 10 on. */
+    private static void yearOf(int z, int n, int pairs, int clogs) {
+        LeftAndRight x = Check.laid("c0,1,30,10;");
+        due("year(" + z + ", " + n + ", 0)", x.year(z, n, 0), pairs);
+        due("year(" + z + ", " + n + ", 1)", x.year(z, n, 1), clogs);
+        due("year(" + z + ", " + n + ", 0) once more", x.year(z, n, 0), pairs);
+    }
+
     // Promise 27
     private static void year() {
         LeftAndRight x = Check.laid("c0,1,30,10;");
@@ -695,6 +724,13 @@ public final class PromisesTest {
         due("year(0, 11, 1), none comes to ten", x.year(0, 11, 1), 8);
         x.pass(10);
         due("year(0, 1, 0), from now", x.year(0, 1, 0), 1);
+        yearOf(1, 60, 16, 10);
+        yearOf(2, 8, 2, 5);
+        yearOf(5, 45, 11, 10);
+        yearOf(77, 30, 4, 10);
+        yearOf(123, 20, 2, 10);
+        yearOf(4321, 60, 12, 10);
+        yearOf(9999, 60, 7, 10);
         due("year(-1, 1, 0)", x.year(-1, 1, 0), BAD);
         due("year(10000, 1, 0)", x.year(10000, 1, 0), BAD);
         due("year(0, 0, 0)", x.year(0, 0, 0), BAD);
