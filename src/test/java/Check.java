@@ -35,6 +35,18 @@ final class Check {
         return shelf;
     }
 
+    /** So many days on, in calls of 60 at most. */
+    static LeftAndRight passed(LeftAndRight shelf, int days) {
+        for (int left = days; left > 0; left -= 60) {
+            shelf.pass(Math.min(60, left));
+        }
+        return shelf;
+    }
+
+    static LeftAndRight onDay(String text, int day) {
+        return passed(laid(text), day);
+    }
+
     void end(String test) {
         System.out.println(test + ": " + asked + " answers, " + wrong + " of them not as due");
         if (wrong != 0) {
